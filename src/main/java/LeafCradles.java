@@ -152,7 +152,9 @@ public final class LeafCradles {
         }
         archive.save();
         for (int part = 0; part < text.partCount(); part++) {
-            archive.barLeaves(volume, text.partFact(part, BarText.FIRST), text.partFact(part, BarText.LAST), text.partFact(part, BarText.YEAR));
+            int first = text.partFact(part, BarText.FIRST);
+            int last = text.partFact(part, BarText.LAST);
+            archive.barLeaves(volume, first, last, text.partFact(part, BarText.YEAR));
         }
         text.empty();
         return archive.barredLeaves(volume);
@@ -393,28 +395,27 @@ public final class LeafCradles {
             this.copies = new int[Math.max(copies, 0) * this.cells.length];
         }
 
-        private boolean has(int row, int column) {
-            return row >= 0 && row < rows && column >= 0 && column < width;
-        }
-
         int at(int row, int column) {
-            return has(row, column) ? cells[row * width + column] : NONE;
+            if (row < 0 || row >= rows || column < 0 || column >= width) {
+                return NONE;
+            }
+            return cells[row * width + column];
         }
 
         void put(int row, int column, int value) {
-            if (has(row, column)) {
+            if (row >= 0 && row < rows && column >= 0 && column < width) {
                 cells[row * width + column] = value;
             }
         }
 
         void add(int row, int column, int more) {
-            if (has(row, column)) {
+            if (row >= 0 && row < rows && column >= 0 && column < width) {
                 cells[row * width + column] += more;
             }
         }
 
         void copyRow(int from, int to) {
-            if (has(from, 0) && has(to, 0)) {
+            if (from >= 0 && from < rows && to >= 0 && to < rows) {
                 System.arraycopy(cells, from * width, cells, to * width, width);
             }
         }
