@@ -383,16 +383,23 @@ public final class LeafCradles {
 
     /** Rows of numbers, and copies of them all for undo; every index is tested here. */
     private static final class Table {
+        // no table is longer or wider, so that the number of its cells stays an int
+        private static final int LONGEST_SIDE = 200;
+
         private final int rows;
         private final int width;
         private final int[] cells;
         private final int[] copies;
 
         Table(int rows, int width, int copies) {
-            this.rows = Math.max(rows, 0);
-            this.width = Math.max(width, 0);
+            this.rows = bounded(rows, LONGEST_SIDE);
+            this.width = bounded(width, LONGEST_SIDE);
             this.cells = new int[this.rows * this.width];
-            this.copies = new int[Math.max(copies, 0) * this.cells.length];
+            this.copies = new int[bounded(copies, MOST_SAVES) * this.cells.length];
+        }
+
+        private static int bounded(int value, int greatest) {
+            return Math.max(0, Math.min(value, greatest));
         }
 
         int at(int row, int column) {

@@ -2,25 +2,8 @@ import java.util.ArrayList;
 import java.util.List;
 
 /** Promises 11 to 14: behind every beginning of a list of bars, which characters are errors, and which texts are whole. */
-public final class BarTextTest {
+public final class BarTextTest extends Checks {
     private static final String SIGNS = "0123456789-:,/;!~";
-
-    private static int wrong = 0;
-
-    private static void due(String what, long got, long want) {
-        if (got != want) {
-            wrong++;
-            if (wrong <= 20) {
-                System.out.println(what + " answered " + got + ", due is " + want);
-            }
-        }
-    }
-
-    private static void append(LeafCradles x, String text) {
-        for (int i = 0; i < text.length(); i++) {
-            x.append(text.charAt(i));
-        }
-    }
 
     private static boolean takesAsList(LeafCradles x) {
         try {
@@ -31,7 +14,7 @@ public final class BarTextTest {
         }
     }
 
-    private static void testBehind(String beginning) {
+    private static void tryBehind(String beginning) {
         LeafCradles x = new LeafCradles();
         x.addVolume(0, 1, 40, 0);
         for (int i = 0; i < SIGNS.length(); i++) {
@@ -98,15 +81,13 @@ public final class BarTextTest {
         due("bar(0) of a full list", x.bar(0), 17);
     }
 
-    public static void main(String[] args) {
+    private static void testBehindEachBeginning() {
         for (String beginning : beginnings()) {
-            testBehind(beginning);
+            tryBehind(beginning);
         }
-        testTheFirstErrorStays();
-        testTheLimitOfTheBuffer();
-        System.out.println(wrong == 0 ? "all texts are read as due" : wrong + " answers are not as due");
-        if (wrong != 0) {
-            System.exit(1);
-        }
+    }
+
+    public static void main(String[] args) {
+        runAll(BarTextTest.class);
     }
 }

@@ -1,39 +1,5 @@
 /** Each promise once by hand: ordinary inputs, the edges that the document names, and wrong inputs. */
-public final class PromiseTest {
-    private static final Class<?> INDEX = IndexOutOfBoundsException.class;
-    private static final Class<?> ARGUMENT = IllegalArgumentException.class;
-    private static final Class<?> STATE = IllegalStateException.class;
-
-    private interface Call {
-        long answer();
-    }
-
-    private static int wrong = 0;
-    private static int promise = 0;
-
-    private static void due(String what, long got, long want) {
-        if (got != want) {
-            wrong++;
-            System.out.println("promise " + promise + ": " + what + " answered " + got + ", due is " + want);
-        }
-    }
-
-    /** The call throws just this, and changes nothing. */
-    private static void refused(String what, LeafCradles x, Class<?> want, Call call) {
-        long before = x.digest();
-        Class<?> got = null;
-        try {
-            call.answer();
-        } catch (RuntimeException e) {
-            got = e.getClass();
-        }
-        if (got != want) {
-            wrong++;
-            System.out.println("promise " + promise + ": " + what + " threw " + got + ", due is " + want);
-        }
-        due("digest() behind the refused " + what, x.digest(), before);
-    }
-
+public final class PromiseTest extends Checks {
     /** What undo brings back is what was there; it is done once and taken back. */
     private static void undoable(String what, LeafCradles x, Call call) {
         long before = hashWithoutSaves(x);
@@ -73,12 +39,6 @@ public final class PromiseTest {
         return hash;
     }
 
-    private static void append(LeafCradles x, String text) {
-        for (int i = 0; i < text.length(); i++) {
-            x.append(text.charAt(i));
-        }
-    }
-
     /** Volume 0 in box 3 (4 leaves, sound), 1 in box 10 (6, worn), 2 in box 0 (2, brittle, large); 2 cradles, 2 carriers. */
     private static LeafCradles small() {
         LeafCradles x = new LeafCradles();
@@ -92,19 +52,8 @@ public final class PromiseTest {
         return x;
     }
 
-    /** One sound volume of so many leaves, which lies on a cradle of the greatest gentleness. */
-    private static LeafCradles laid(int leaves, int state) {
-        LeafCradles x = new LeafCradles();
-        x.addVolume(0, 1, leaves, state);
-        x.addCradle(3, 2);
-        x.addCarrier();
-        x.bring(0, 0, 0);
-        x.pass(1);
-        return x;
-    }
-
     private static void testNew() {
-        promise = 1;
+        about("promise 1");
         LeafCradles x = new LeafCradles();
         for (int what = 0; what <= 13; what++) {
             due("count(" + what + ")", x.count(what), what == 4 ? 2000 : 0);
@@ -117,7 +66,7 @@ public final class PromiseTest {
     }
 
     private static void testAddVolume() {
-        promise = 2;
+        about("promise 2");
         LeafCradles x = new LeafCradles();
         due("addVolume", x.addVolume(19, 3, 40, 3), 0);
         int[] facts = {19, 3, 40, 3, 0, -1, 0, 0, 0, 0, 0, 0};
@@ -137,7 +86,7 @@ public final class PromiseTest {
     }
 
     private static void testAddCradle() {
-        promise = 3;
+        about("promise 3");
         LeafCradles x = new LeafCradles();
         due("addCradle", x.addCradle(3, 2), 0);
         int[] facts = {3, 2, -1, 0, 0, 1};
@@ -157,7 +106,7 @@ public final class PromiseTest {
     }
 
     private static void testAddCarrier() {
-        promise = 4;
+        about("promise 4");
         LeafCradles x = new LeafCradles();
         undoable("addCarrier", x, x::addCarrier);
         for (int i = 0; i < 3; i++) {
@@ -170,7 +119,7 @@ public final class PromiseTest {
     }
 
     private static void testSettings() {
-        promise = 5;
+        about("promise 5");
         LeafCradles x = new LeafCradles();
         int[] least = {1, 0, 1, 0};
         int[] greatest = {9, 9, 200, 5};
@@ -186,10 +135,10 @@ public final class PromiseTest {
         }
         refused("set(-1, 500)", x, INDEX, () -> x.set(-1, 500));
         refused("set(4, 1)", x, INDEX, () -> x.set(4, 1));
-        promise = 23;
+        about("promise 23");
         refused("setting(-1)", x, INDEX, () -> x.setting(-1));
         refused("setting(4)", x, INDEX, () -> x.setting(4));
-        promise = 6;
+        about("promise 6");
         due("setYear(1800)", x.setYear(1800), 2000);
         due("setYear(2199)", x.setYear(2199), 1800);
         due("count(4)", x.count(4), 2199);
@@ -199,7 +148,7 @@ public final class PromiseTest {
     }
 
     private static void testBring() {
-        promise = 7;
+        about("promise 7");
         LeafCradles x = small();
         undoable("bring", x, () -> x.bring(1, 0, 0));
         due("bring(1, 0, 0)", x.bring(1, 0, 0), 11);
@@ -225,7 +174,7 @@ public final class PromiseTest {
     }
 
     private static void testTakeBack() {
-        promise = 8;
+        about("promise 8");
         LeafCradles x = small();
         refused("takeBack from no cradle", x, STATE, () -> x.takeBack(0, 0));
         x.bring(0, 1, 0);
@@ -250,7 +199,7 @@ public final class PromiseTest {
     }
 
     private static void testWorkIsLost() {
-        promise = 8;
+        about("promise 8");
         LeafCradles x = laid(4, 0);
         x.set(0, 5);
         x.pass(3);
@@ -267,7 +216,7 @@ public final class PromiseTest {
     }
 
     private static void testPass() {
-        promise = 9;
+        about("promise 9");
         LeafCradles x = laid(10, 1);
         due("pass(1)", x.pass(1), 0);
         due("work", x.cradle(0, 3), 1);
@@ -291,7 +240,7 @@ public final class PromiseTest {
     }
 
     private static void testStrain() {
-        promise = 9;
+        about("promise 9");
         LeafCradles x = laid(12, 0);
         x.set(2, 3);
         due("pass(3)", x.pass(3), 3);
@@ -311,7 +260,7 @@ public final class PromiseTest {
     }
 
     private static void testNewSettingsInWork() {
-        promise = 9;
+        about("promise 9");
         LeafCradles x = laid(12, 0);
         x.set(0, 9);
         x.pass(5);
@@ -323,7 +272,7 @@ public final class PromiseTest {
     }
 
     private static void testReject() {
-        promise = 10;
+        about("promise 10");
         LeafCradles x = laid(4, 0);
         refused("reject of a leaf that is not scanned", x, STATE, () -> x.reject(0, 0));
         x.pass(3);
@@ -352,7 +301,7 @@ public final class PromiseTest {
     }
 
     private static void testBuffer() {
-        promise = 11;
+        about("promise 11");
         LeafCradles x = new LeafCradles();
         refused("append(32)", x, ARGUMENT, () -> x.append(32));
         refused("append(127)", x, ARGUMENT, () -> x.append(127));
@@ -364,12 +313,12 @@ public final class PromiseTest {
         }
         refused("append 61", x, STATE, () -> x.append('1'));
         refused("append 61, bad", x, ARGUMENT, () -> x.append(32));
-        promise = 13;
+        about("promise 13");
         due("firstError()", x.firstError(), 0);
-        promise = 12;
+        about("promise 12");
         due("clearBuffer()", x.clearBuffer(), 60);
         due("clearBuffer()", x.clearBuffer(), 0);
-        promise = 13;
+        about("promise 13");
         due("firstError() of an empty buffer", x.firstError(), 0);
         append(x, "3-1");
         due("firstError() of 3-1", x.firstError(), 3);
@@ -378,7 +327,7 @@ public final class PromiseTest {
     }
 
     private static void testBar() {
-        promise = 14;
+        about("promise 14");
         LeafCradles x = laid(10, 0);
         x.pass(10);
         refused("bar(0) of nothing", x, ARGUMENT, () -> x.bar(0));
@@ -416,7 +365,7 @@ public final class PromiseTest {
     }
 
     private static void testUndo() {
-        promise = 15;
+        about("promise 15");
         LeafCradles x = new LeafCradles();
         refused("undo() of nothing", x, STATE, x::undo);
         for (int year = 1901; year <= 1909; year++) {
@@ -437,7 +386,7 @@ public final class PromiseTest {
     }
 
     private static void testUndoOfWays() {
-        promise = 15;
+        about("promise 15");
         LeafCradles x = small();
         x.bring(0, 0, 0);
         x.pass(5);
@@ -454,52 +403,52 @@ public final class PromiseTest {
     private static void testWrongNumbers() {
         LeafCradles x = small();
         x.bring(0, 0, 0);
-        promise = 16;
+        about("promise 16");
         refused("volume(-1, 99)", x, INDEX, () -> x.volume(-1, 99));
         refused("volume(3, 0)", x, INDEX, () -> x.volume(3, 0));
         refused("volume(0, -1)", x, ARGUMENT, () -> x.volume(0, -1));
         refused("volume(0, 12)", x, ARGUMENT, () -> x.volume(0, 12));
-        promise = 17;
+        about("promise 17");
         refused("leaf(3, 0, 9)", x, INDEX, () -> x.leaf(3, 0, 9));
         refused("leaf(0, 4, 9)", x, INDEX, () -> x.leaf(0, 4, 9));
         refused("leaf(0, -1, 0)", x, INDEX, () -> x.leaf(0, -1, 0));
         refused("leaf(0, 0, 4)", x, ARGUMENT, () -> x.leaf(0, 0, 4));
         refused("leaf(0, 0, -1)", x, ARGUMENT, () -> x.leaf(0, 0, -1));
-        promise = 18;
+        about("promise 18");
         refused("cradle(2, 9)", x, INDEX, () -> x.cradle(2, 9));
         refused("cradle(-1, 0)", x, INDEX, () -> x.cradle(-1, 0));
         refused("cradle(0, 6)", x, ARGUMENT, () -> x.cradle(0, 6));
         refused("cradle(0, -1)", x, ARGUMENT, () -> x.cradle(0, -1));
-        promise = 19;
+        about("promise 19");
         refused("carrier(2, 9)", x, INDEX, () -> x.carrier(2, 9));
         refused("carrier(-1, 0)", x, INDEX, () -> x.carrier(-1, 0));
         refused("carrier(0, 4)", x, ARGUMENT, () -> x.carrier(0, 4));
         refused("carrier(0, -1)", x, ARGUMENT, () -> x.carrier(0, -1));
-        promise = 20;
+        about("promise 20");
         refused("log(1, 9)", x, INDEX, () -> x.log(1, 9));
         refused("log(-1, 0)", x, INDEX, () -> x.log(-1, 0));
         refused("log(0, 5)", x, ARGUMENT, () -> x.log(0, 5));
         refused("log(0, -1)", x, ARGUMENT, () -> x.log(0, -1));
-        promise = 21;
+        about("promise 21");
         refused("whereAt(3, 1)", x, INDEX, () -> x.whereAt(3, 1));
         refused("whereAt(0, 1)", x, ARGUMENT, () -> x.whereAt(0, 1));
         refused("whereAt(0, -1)", x, ARGUMENT, () -> x.whereAt(0, -1));
-        promise = 22;
+        about("promise 22");
         refused("count(-1)", x, ARGUMENT, () -> x.count(-1));
         refused("count(14)", x, ARGUMENT, () -> x.count(14));
-        promise = 24;
+        about("promise 24");
         refused("whyNot(3, 0, 0)", x, INDEX, () -> x.whyNot(3, 0, 0));
         refused("whyNot(0, 2, 0)", x, INDEX, () -> x.whyNot(0, 2, 0));
         refused("whyNot(0, 0, 2)", x, INDEX, () -> x.whyNot(0, 0, 2));
-        promise = 25;
+        about("promise 25");
         refused("ifPassed(0, 2)", x, INDEX, () -> x.ifPassed(0, 2));
         refused("ifPassed(1, -2)", x, INDEX, () -> x.ifPassed(1, -2));
         refused("ifPassed(0, 0)", x, ARGUMENT, () -> x.ifPassed(0, 0));
         refused("ifPassed(501, -1)", x, ARGUMENT, () -> x.ifPassed(501, -1));
-        promise = 27;
+        about("promise 27");
         refused("quickest(3)", x, INDEX, () -> x.quickest(3));
         refused("quickest(-1)", x, INDEX, () -> x.quickest(-1));
-        promise = 28;
+        about("promise 28");
         refused("bestLoad(0, 0)", x, ARGUMENT, () -> x.bestLoad(0, 0));
         refused("bestLoad(101, 0)", x, ARGUMENT, () -> x.bestLoad(101, 0));
         refused("bestLoad(1, -1)", x, ARGUMENT, () -> x.bestLoad(1, -1));
@@ -511,28 +460,28 @@ public final class PromiseTest {
         x.pass(7);
         x.bring(1, 1, 1);
         x.pass(4);
-        promise = 19;
+        about("promise 19");
         int[] facts = {10, 7, 1, 11};
         for (int what = 0; what <= 3; what++) {
             due("carrier(1, " + what + ")", x.carrier(1, what), facts[what]);
         }
-        promise = 18;
+        about("promise 18");
         due("not there yet", x.cradle(1, 5), 2);
         x.pass(7);
         due("there", x.cradle(1, 5), 0);
-        promise = 19;
+        about("promise 19");
         due("not busy", x.carrier(1, 1), 0);
         x.takeBack(1, 1);
         due("ways", x.carrier(1, 2), 2);
         due("minutes", x.carrier(1, 3), 12);
-        promise = 20;
+        about("promise 20");
         int[][] entries = {{7, 1, 1, 1, 11}, {18, 1, 1, -1, 1}};
         for (int entry = 0; entry < 2; entry++) {
             for (int what = 0; what <= 4; what++) {
                 due("log(" + entry + ", " + what + ")", x.log(entry, what), entries[entry][what]);
             }
         }
-        promise = 21;
+        about("promise 21");
         due("whereAt(1, 6)", x.whereAt(1, 6), -1);
         due("whereAt(1, 7)", x.whereAt(1, 7), 1);
         due("whereAt(1, 17)", x.whereAt(1, 17), 1);
@@ -542,12 +491,12 @@ public final class PromiseTest {
 
     /** Of two entries in one minute the later one counts. */
     private static void testTwoWaysInAMinute() {
-        promise = 21;
+        about("promise 21");
         LeafCradles x = small();
         x.bring(0, 0, 0);
         x.takeBack(0, 1);
         due("whereAt(0, 0)", x.whereAt(0, 0), -1);
-        promise = 22;
+        about("promise 22");
         int[] counts = {3, 2, 2, 0, 2000, 2, 12, 0, 0, 0, 0, 0, 2, 6};
         for (int what = 0; what <= 13; what++) {
             due("count(" + what + ")", x.count(what), counts[what]);
@@ -555,7 +504,7 @@ public final class PromiseTest {
     }
 
     private static void testWhyNot() {
-        promise = 24;
+        about("promise 24");
         LeafCradles x = small();
         due("it can", x.whyNot(0, 0, 0), 0);
         due("size", x.whyNot(2, 0, 0), 4);
@@ -588,13 +537,13 @@ public final class PromiseTest {
         }
         x.bring(0, 0, 0);
         x.pass(1);
-        promise = 8;
+        about("promise 8");
         due("59 entries", x.count(5), 59);
         due("takeBack as the entry 59", x.takeBack(0, 0), 1);
         x.pass(1);
-        promise = 24;
+        about("promise 24");
         due("the log is full", x.whyNot(0, 0, 0), 8);
-        promise = 7;
+        about("promise 7");
         refused("bring with a full log", x, STATE, () -> x.bring(0, 0, 0));
         x.undo();
         x.undo();
@@ -603,11 +552,11 @@ public final class PromiseTest {
         x.addCradle(1, 0);
         x.bring(1, 1, 0);
         x.pass(1);
-        promise = 8;
+        about("promise 8");
         refused("takeBack with a full log", x, STATE, () -> x.takeBack(0, 0));
-        promise = 28;
+        about("promise 28");
         due("bestLoad needs no log", x.bestLoad(10, 0), 0);
-        promise = 27;
+        about("promise 27");
         due("quickest needs no log", x.quickest(1), 0);
     }
 
@@ -615,13 +564,13 @@ public final class PromiseTest {
         LeafCradles x = small();
         x.bring(0, 0, 0);
         x.bring(1, 1, 1);
-        promise = 25;
+        about("promise 25");
         due("ifPassed on the way", x.ifPassed(4, -1), 0);
         due("ifPassed(5, 0)", x.ifPassed(5, 0), 1);
         due("ifPassed(13, 1)", x.ifPassed(13, 1), 1);
         due("ifPassed(13, -1)", x.ifPassed(13, -1), 5);
         due("ifPassed(500, -1)", x.ifPassed(500, -1), 10);
-        promise = 26;
+        about("promise 26");
         due("doneIn()", x.doneIn(), 23);
         x.pass(22);
         due("doneIn()", x.doneIn(), 1);
@@ -635,7 +584,7 @@ public final class PromiseTest {
 
     /** Worst of all: the longest way, and each leaf as slow as can be. */
     private static void testLongestDoneIn() {
-        promise = 26;
+        about("promise 26");
         LeafCradles x = new LeafCradles();
         x.addVolume(19, 1, 40, 2);
         x.addCradle(1, 2);
@@ -653,7 +602,7 @@ public final class PromiseTest {
     }
 
     private static void testQuickest() {
-        promise = 27;
+        about("promise 27");
         LeafCradles x = new LeafCradles();
         x.addVolume(10, 1, 4, 0);
         x.addVolume(4, 1, 4, 0);
@@ -675,7 +624,7 @@ public final class PromiseTest {
     }
 
     private static void testBestLoad() {
-        promise = 28;
+        about("promise 28");
         LeafCradles x = new LeafCradles();
         due("bestLoad without cradles", x.bestLoad(10, 0), 0);
         x.addCradle(1, 2);
@@ -709,7 +658,7 @@ public final class PromiseTest {
 
     /** One volume for two cradles: NONE comes first, so the second one has it. */
     private static void testNoneComesFirst() {
-        promise = 28;
+        about("promise 28");
         LeafCradles x = new LeafCradles();
         x.addCradle(1, 2);
         x.addCradle(1, 2);
@@ -726,7 +675,7 @@ public final class PromiseTest {
     }
 
     private static void testOpenShareAndDigest() {
-        promise = 29;
+        about("promise 29");
         LeafCradles x = laid(3, 0);
         due("openShare() of none", Double.doubleToLongBits(x.openShare()), 0L);
         due("openShare() without leaves", Double.doubleToLongBits(new LeafCradles().openShare()), 0L);
@@ -734,7 +683,7 @@ public final class PromiseTest {
         due("openShare() of one of three", Double.doubleToLongBits(x.openShare()), Double.doubleToLongBits(1.0 / 3));
         x.pass(2);
         due("openShare() of all", Double.doubleToLongBits(x.openShare()), Double.doubleToLongBits(1.0));
-        promise = 30;
+        about("promise 30");
         LeafCradles y = new LeafCradles();
         long hash = 2341;
         long[] values = {0, 0, 0, 0, 2000, 0, 0, 0, 0, 0, 0, 0, 0, 0, 1, 1, 30, 1, 0, 0, -1, -1, -1, -1, 0, 0};
@@ -748,7 +697,7 @@ public final class PromiseTest {
 
     /** The bits of every share that an archive of up to 40 leaves can have. */
     private static void testDigestOfShares() {
-        promise = 30;
+        about("promise 30");
         for (int leaves = 1; leaves <= 40; leaves++) {
             LeafCradles x = laid(leaves, 0);
             NaiveArchive y = new NaiveArchive();
@@ -766,37 +715,6 @@ public final class PromiseTest {
     }
 
     public static void main(String[] args) {
-        testNew();
-        testAddVolume();
-        testAddCradle();
-        testAddCarrier();
-        testSettings();
-        testBring();
-        testTakeBack();
-        testWorkIsLost();
-        testPass();
-        testStrain();
-        testNewSettingsInWork();
-        testReject();
-        testBuffer();
-        testBar();
-        testUndo();
-        testUndoOfWays();
-        testWrongNumbers();
-        testCarriersAndLog();
-        testTwoWaysInAMinute();
-        testWhyNot();
-        testFullLog();
-        testIfPassedAndDoneIn();
-        testLongestDoneIn();
-        testQuickest();
-        testBestLoad();
-        testNoneComesFirst();
-        testOpenShareAndDigest();
-        testDigestOfShares();
-        System.out.println(wrong == 0 ? "all promises are held" : wrong + " answers are not as due");
-        if (wrong != 0) {
-            System.exit(1);
-        }
+        runAll(PromiseTest.class);
     }
 }
