@@ -3,7 +3,7 @@
  * and every exception must be the same. The numbers come from a counter of its own.
  */
 public final class ModelTest {
-    private static final int RUNS = 240;
+    private static final int RUNS = 300;
     private static final int CALLS = 512;
 
     private static final int ADD_VOLUME = 0;
@@ -224,6 +224,31 @@ public final class ModelTest {
         return below(3) == 0 ? below(NAMES.length) : often[below(often.length)];
     }
 
+    /**
+     * Brings a volume that can be brought, or takes one back, or lets a minute pass: so the log comes to
+     * its end long before the calls do, and volumes are moved behind many scans.
+     */
+    private static void walk(int number, LeafCradles x, NaiveArchive y) {
+        int volumes = y.world.volumes.size();
+        int cradles = y.world.cradles.size();
+        int carriers = y.world.carriers.size();
+        for (int trial = 0; trial < 8 && volumes > 0 && cradles > 0 && carriers > 0; trial++) {
+            int v = below(volumes);
+            int cradle = below(cradles);
+            int carrier = below(carriers);
+            if (y.world.volumes.get(v).cradle != NaiveArchive.NONE && below(3) == 0) {
+                compare(number, x, y, TAKE_BACK, new int[] {v, carrier});
+                return;
+            }
+            int reason = y.whyNot(v, cradle, carrier);
+            if (reason == 0 || reason == 8) {
+                compare(number, x, y, reason == 8 && below(2) == 0 ? WHY_NOT : BRING, new int[] {v, cradle, carrier});
+                return;
+            }
+        }
+        compare(number, x, y, PASS, new int[] {1 + below(3)});
+    }
+
     private static void run(int number) {
         seed = number * 7919L + 17L;
         LeafCradles x = new LeafCradles();
@@ -235,7 +260,13 @@ public final class ModelTest {
             compare(number, x, y, call, arguments(y, call));
         }
         boolean seldomUndo = number % 3 == 0;
+        boolean walks = number % 5 == 1;
         while (calls < CALLS - 1) {
+            if (walks && below(8) > 0) {
+                walk(number, x, y);
+                calls++;
+                continue;
+            }
             int call = pick();
             if (call == UNDO && seldomUndo && below(4) > 0) {
                 call = DIGEST;
@@ -264,7 +295,7 @@ public final class ModelTest {
                 System.out.println(NAMES[call] + " was answered only " + answered[call] + " times");
             }
         }
-        for (int reason = 0; reason <= 7; reason++) {
+        for (int reason = 0; reason < reasons.length; reason++) {
             if (reasons[reason] < 50) {
                 wrong++;
                 System.out.println("the reason " + reason + " came only " + reasons[reason] + " times");
